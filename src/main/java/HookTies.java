@@ -329,7 +329,7 @@ public final class HookTies {
         }
         net.draw(told, now);
         int links = net.links();
-        int above = net.weightInOnePiece(links, q);
+        int above = net.weightOfAllReached(Integer.lowestOneBit(net.inside), links, q);
         int below = power(4, Integer.bitCount(links));
         // Below is a power of 2, so halving both is all that can be shortened.
         for (int i = 0; i < 2 * MOST_THINGS && above % 2 == 0 && below % 2 == 0; i++) {
@@ -999,7 +999,6 @@ public final class HookTies {
         private int inside = 0;
         private int things = 0;
         private final int[] ends = new int[MOST_THINGS];
-        private int drawn = 0;
 
         private void draw(Told told, State state) {
             inside = state.inside(told);
@@ -1007,7 +1006,6 @@ public final class HookTies {
             for (int t = 0; t < things; t++) {
                 ends[t] = state.at[t] == NONE ? 0 : endsOf(told.owner[t], state.at[t]);
             }
-            drawn = (1 << things) - 1;
         }
 
         private int endsOf(int owner, int place) {
@@ -1029,7 +1027,7 @@ public final class HookTies {
         private int widened(int reach, int within) {
             int wider = reach;
             for (int t = 0; t < things; t++) {
-                if ((drawn >> t & 1) != 0 && (ends[t] & reach) != 0 && (ends[t] & ~within) == 0) {
+                if ((ends[t] & reach) != 0 && (ends[t] & ~within) == 0) {
                     wider |= ends[t];
                 }
             }
@@ -1060,10 +1058,6 @@ public final class HookTies {
             return parts;
         }
 
-        private boolean isOnePiece() {
-            return inside == 0 || reachOf(Integer.numberOfTrailingZeros(inside), inside) == inside;
-        }
-
         private int stepsBetween(int from, int to) {
             if (bitOf(inside, from) == 0) {
                 return NONE;
@@ -1078,22 +1072,29 @@ public final class HookTies {
             return NONE;
         }
 
-        /** In how many of 4 ^ (how many links) cases of like odds there is one part at most. */
-        private int weightInOnePiece(int links, int q) {
-            int size = Integer.bitCount(links);
-            int sum = 0;
-            int left = links;
-            for (int n = 0; n < 1 << size; n++) {
-                int safe = Integer.bitCount(left);
-                int weight = power(q, size - safe) * power(4 - q, safe);
-                drawn = left;
-                if (weight != 0 && isOnePiece()) {
-                    sum += weight;
-                }
-                // The next lesser choice among the links: each is met once.
-                left = left - 1 & links;
+        /** In how many of 4 ^ (how many links are open) cases of like odds all HOUSES are reached, from those that are now. */
+        private int weightOfAllReached(int reach, int open, int q) {
+            if (reach == inside) {
+                return power(4, Integer.bitCount(open));
             }
-            return sum;
+            int t = openLinkOutOf(reach, open);
+            if (t == NONE) {
+                return 0;
+            }
+            // One link fewer is open at each level, so there are no more levels than THINGS.
+            int others = open & ~(1 << t);
+            int safe = q == 4 ? 0 : weightOfAllReached(reach | ends[t], others, q);
+            int stolen = q == 0 ? 0 : weightOfAllReached(reach, others, q);
+            return (4 - q) * safe + q * stolen;
+        }
+
+        private int openLinkOutOf(int reach, int open) {
+            for (int t = 0; t < things; t++) {
+                if (bitOf(open, t) == 1 && (ends[t] & reach) != 0 && (ends[t] & ~reach) != 0) {
+                    return t;
+                }
+            }
+            return NONE;
         }
     }
 
