@@ -29,11 +29,28 @@ final class Due {
     void refused(HookTies x, String call, IntSupplier asking, int want) {
         String before = Look.at(x);
         is(call, asking.getAsInt(), want);
-        String after = Look.at(x);
-        if (!before.equals(after)) {
+        same("behind " + call, Look.at(x), before);
+    }
+
+    void same(String what, String got, String want) {
+        asked++;
+        if (!got.equals(want)) {
             wrong++;
-            System.out.println(about + ": " + call + " changed\n  " + before + "\nto\n  " + after);
+            int place = firstOther(got, want);
+            System.out.println(about + ": " + what + ": at " + place + " '" + near(got, place) + "' instead of '" + near(want, place) + "'");
         }
+    }
+
+    private static int firstOther(String one, String other) {
+        int place = 0;
+        while (place < one.length() && place < other.length() && one.charAt(place) == other.charAt(place)) {
+            place++;
+        }
+        return place;
+    }
+
+    private static String near(String text, int place) {
+        return text.substring(Math.max(0, place - 20), Math.min(text.length(), place + 20));
     }
 
     void end() {

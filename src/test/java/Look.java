@@ -28,6 +28,11 @@ final class Look {
 
     private static void rack(StringBuilder all, HookTies x, int r) {
         put(all, "r", x.find(r, 0, 0));
+        if (x.find(r, 0, 0) == HookTies.NULL) {
+            return;
+        }
+        put(all, "", x.find(r, 0, -9999));
+        put(all, "", x.find(r, 0, 9999));
         for (int v = -9; v < 26; v++) {
             put(all, "", x.find(r, 0, v));
             put(all, "", x.find(r, 1, v));
