@@ -112,6 +112,8 @@ public final class EdgeDoneTest {
         Run.of(due, "house;house;house;pan 0 1 9;pan 2 1 9;pan 1 1 9", "send(0,0)=1 send(1,0)=NOT send(1,2)=NOT send(2,0)=1 thing(2,3)=0",
             "send(0,1)=0 send(1,2)=1 send(0,0)=NOT send(0,2)=NOT");
         Run.of(due, "house;house;pan 0 0 9", "house(0,3)=0 send(0,1)=0 house(1,3)=1 send(0,0)=NOT");
+        Run.of(due, "house;house" + ";pan 1 1 9".repeat(9) + ";pan 0 1 9", "send(9,0)=NOT send(8,0)=1 send(9,0)=NOT send(0,0)=1");
+        Run.of(due, "house;house;pan 0 1 9" + ";pan 1 1 9".repeat(8) + ";pan 0 1 9", "send(0,0)=1 send(9,0)=NOT send(0,1)=0 send(9,0)=1 send(0,0)=NOT");
         // What of its own is there besides does not tie it.
         Run.of(due, "house;house;pan 0 1 9;pan 1 1 9;pan 1 1 9", "send(0,0)=NOT send(1,0)=1 send(0,0)=NOT send(2,0)=1 send(1,1)=0 send(2,1)=NOT");
     }

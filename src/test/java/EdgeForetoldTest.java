@@ -126,6 +126,8 @@ public final class EdgeForetoldTest {
         Run.of(due, THREE + ";pan 0 0 9;pan 0 0 9", "knit(NONE)=2 knit(0)=0 knit(1)=1 knit(2)=1 knit(3)=2");
         Run.of(due, THREE + ";pan 0 0 9", "knit(NONE)=NONE", none);
         Run.of(due, "house;house;house;house;pan 0 0 9;pan 0 0 9;pan 0 0 9", "knit(NONE)=NONE", none);
+        String useless = ";spoon 3 0 9;spoon 3 1 9;spoon 3 2 9";
+        Run.of(due, THREE + ";house" + useless.repeat(3) + ";spoon 0 0 9", "year(1)=1 pieces(0)=3 knit(NONE)=NONE", none);
     }
 
     private static void knitBounds() {

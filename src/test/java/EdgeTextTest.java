@@ -128,6 +128,10 @@ public final class EdgeTextTest {
             "house(0,0)=UNKNOWN thing(0,0)=UNKNOWN 'house;house;pan 1 0 3' commons()=3 house(1,4)=NONE thing(0,2)=3 count(1)=1");
         Run.of(due, "house;pan 0 0 9;want 0 0;commons;house;house", "count(0)=2 count(1)=0 house(0,4)=NONE");
         Run.of(due, SEVEN, "'commons;" + SEVEN + "' commons()=8 count(0)=7");
+        // What was told ahead of it ties, links and is sent no more.
+        Run.of(due, "house;house;pan 0 1 9;pan 0 1 9", "'commons;house;house;pan 0 1 9' commons()=4 send(0,0)=NOT house(1,1)=1 count(5)=9");
+        Run.of(due, "house;house;pan 0 1 9;pan 0 1 9", "'commons;house;house;pan 0 0 9' commons()=4 count(4)=0 pieces(0)=2 way(0,1)=NONE whole(0,0)=0 hangs()=0 leaves(1)=1");
+        Run.of(due, "house;house;pan 0 0 9;pan 0 0 9", "'commons;house;house;house;pan 0 0 9' commons()=5 knit(NONE)=NONE knit(0)=NONE");
         Run.of(due, TEN, "'commons;house;pan 0 0 7' commons()=3 count(1)=1 thing(0,0)=0 thing(0,2)=7");
     }
 
