@@ -329,7 +329,7 @@ public final class HookTies {
         }
         net.draw(told, now);
         int links = net.links();
-        int above = net.weightOfAllReached(Integer.lowestOneBit(net.inside), links, q);
+        int above = Net.weightOfAllReached(net, Integer.lowestOneBit(net.inside), links, q);
         int below = power(4, Integer.bitCount(links));
         // Below is a power of 2, so halving both is all that can be shortened.
         for (int i = 0; i < 2 * MOST_THINGS && above % 2 == 0 && below % 2 == 0; i++) {
@@ -1073,18 +1073,18 @@ public final class HookTies {
         }
 
         /** In how many of 4 ^ (how many links are open) cases of like odds all HOUSES are reached, from those that are now. */
-        private int weightOfAllReached(int reach, int open, int q) {
-            if (reach == inside) {
+        private static int weightOfAllReached(Net net, int reach, int open, int q) {
+            if (reach == net.inside) {
                 return power(4, Integer.bitCount(open));
             }
-            int t = openLinkOutOf(reach, open);
+            int t = net.openLinkOutOf(reach, open);
             if (t == NONE) {
                 return 0;
             }
             // One link fewer is open at each level, so there are no more levels than THINGS.
             int others = open & ~(1 << t);
-            int safe = q == 4 ? 0 : weightOfAllReached(reach | ends[t], others, q);
-            int stolen = q == 0 ? 0 : weightOfAllReached(reach, others, q);
+            int safe = q == 4 ? 0 : weightOfAllReached(net, reach | net.ends[t], others, q);
+            int stolen = q == 0 ? 0 : weightOfAllReached(net, reach, others, q);
             return (4 - q) * safe + q * stolen;
         }
 

@@ -104,22 +104,31 @@ public final class RulesTest {
             due.holds("import " + imports.group(1), imports.group(1).equals("java.util.Arrays"));
         }
         due.holds("no call makes an object", !Pattern.compile("(?m)^ {8,}+(?!(private final|past|kept|racks)).*\\bnew\\b").matcher(code).find());
-        shortMethods(code);
+        methods(code);
     }
 
-    private static void shortMethods(String code) {
+    private static void methods(String code) {
         String[] lines = code.split("\n");
         int open = -1;
+        String name = "";
         String end = "";
         for (int i = 0; i < lines.length; i++) {
-            Matcher m = Pattern.compile("( +)(public|private) .*\\) \\{").matcher(lines[i]);
+            Matcher m = Pattern.compile("( +)(public|private) .*?(\\w+)\\(.*\\) \\{").matcher(lines[i]);
             if (m.matches()) {
                 open = i;
+                name = m.group(3);
                 end = m.group(1) + "}";
             } else if (open >= 0 && lines[i].equals(end)) {
-                due.holds("short: " + lines[open].trim(), i - open <= 60);
+                due.holds("rule 11, short: " + lines[open].trim(), i - open <= 60);
+                recursion(lines[open].trim(), name, String.join("\n", Arrays.asList(lines).subList(open + 1, i)));
                 open = -1;
             }
         }
+    }
+
+    /** Calls behind a point are not looked at: there the name may be another class's. */
+    private static void recursion(String head, String name, String body) {
+        boolean callsItself = Pattern.compile("(?<![.\\w])(this\\.)?" + name + "\\(").matcher(body).find();
+        due.holds("rule 8, calls itself and is not static: " + head, !callsItself || head.startsWith("private static "));
     }
 }
