@@ -15,7 +15,7 @@ public final class ReadmeTest {
     private static final Pattern TEXT = Pattern.compile("for \\(char c : \"([^\"]*)\"\\.toCharArray\\(\\)\\) \\{");
     private static final Pattern CALL = Pattern.compile("x\\.([a-z]+)\\(([^)]*)\\); +// (-?\\w+): .*");
     private static final Set<String> AROUND = Set.of("HookTies x = new HookTies();", "    x.write(c);", "}", "");
-    private static final Set<String> NOT_SHOWN = Set.of("write", "erase");
+    private static final Set<String> IN_THE_LOOP = Set.of("write");
 
     public static void main(String[] args) throws Exception {
         due.about("README.md");
@@ -28,7 +28,7 @@ public final class ReadmeTest {
 
     private static String[] calls(String example) {
         List<String> calls = new ArrayList<>();
-        Set<String> shown = new TreeSet<>(NOT_SHOWN);
+        Set<String> shown = new TreeSet<>(IN_THE_LOOP);
         for (String line : example.split("\n")) {
             Matcher text = TEXT.matcher(line);
             Matcher call = CALL.matcher(line);
